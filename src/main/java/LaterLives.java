@@ -407,7 +407,7 @@ public final class LaterLives {
         }
         int bits = 0;
         for (int part = 0; part < found.parts; part++) {
-            trial.take(affairs, found, found.partBegin(part), found.partEnd(part), MOST_YEARS);
+            trial.take(affairs, found, found.partEnd(part), MOST_YEARS);
             if (trial.passes(trial.allLives())) {
                 bits |= 1 << part;
             }
@@ -421,7 +421,7 @@ public final class LaterLives {
             return NONE;
         }
         for (int n = MOST_YEARS; n >= 0; n--) {
-            trial.take(affairs, found, 0, found.steps, n);
+            trial.take(affairs, found, found.steps, n);
             if (trial.passes(trial.allLives())) {
                 return n;
             }
@@ -543,7 +543,7 @@ public final class LaterLives {
         if (found == null) {
             return false;
         }
-        trial.take(affairs, found, 0, found.steps, MOST_YEARS);
+        trial.take(affairs, found, found.steps, MOST_YEARS);
         return true;
     }
 
@@ -820,7 +820,6 @@ public final class LaterLives {
         final int[] numbers = new int[MOST_STEPS];
         final int[] lives = new int[MOST_STEPS];
         final int[] firsts = new int[MOST_STEPS];
-        final int[] partBegins = new int[MOST_FACTS];
         final int[] partEnds = new int[MOST_FACTS];
         final int[] text = new int[2 * MOST_BYTES];
         int whom;
@@ -858,19 +857,18 @@ public final class LaterLives {
 
         /** T { or T }; at depth 0 the Ts are the parts of which WAYS tell. */
         private boolean readAny(int depth) {
-            int from = steps;
             if (depth > MOST_NESTED || !readAll(depth)) {
                 return false;
             }
-            notePart(depth, from);
+            notePart(depth);
             for (int i = 0; i < MOST_BYTES && tape.isWord("or"); i++) {
                 take();
-                from = steps;
+                int first = steps - 1;
                 if (!readAll(depth)) {
                     return false;
                 }
-                notePart(depth, from);
-                noteJoint(OR, from - 1);
+                notePart(depth);
+                noteJoint(OR, first);
             }
             return true;
         }
@@ -998,9 +996,8 @@ public final class LaterLives {
             }
         }
 
-        private void notePart(int depth, int from) {
-            if (depth == 0 && parts >= 0 && parts < partBegins.length && parts < partEnds.length) {
-                partBegins[parts] = from;
+        private void notePart(int depth) {
+            if (depth == 0 && parts >= 0 && parts < partEnds.length) {
                 partEnds[parts] = steps;
                 parts++;
             }
@@ -1047,7 +1044,6 @@ public final class LaterLives {
         final int[] numbers;
         final int[] lives;
         final int[] firsts;
-        final int[] partBegins;
         final int[] partEnds;
         final int[] text;
 
@@ -1061,13 +1057,12 @@ public final class LaterLives {
             numbers = Arrays.copyOf(reader.numbers, steps);
             lives = Arrays.copyOf(reader.lives, steps);
             firsts = Arrays.copyOf(reader.firsts, steps);
-            partBegins = Arrays.copyOf(reader.partBegins, parts);
             partEnds = Arrays.copyOf(reader.partEnds, parts);
             text = Arrays.copyOf(reader.text, Math.max(0, reader.length));
         }
 
-        int partBegin(int part) {
-            return part >= 0 && part < partBegins.length ? partBegins[part] : 0;
+        boolean hasStep(int i) {
+            return i >= 0 && i < kinds.length && i < numbers.length && i < lives.length && i < firsts.length;
         }
 
         int partEnd(int part) {
@@ -1511,19 +1506,16 @@ public final class LaterLives {
         final int[] sures = new int[MOST_STEPS];
         int steps;
 
-        /** Takes the steps from .. to - 1, ages to be reached lowered to n. */
-        void choose(Gift gift, int from, int to, int n) {
+        /* The last step answers for what it joins alone, so a T needs no beginning: what is ahead of it is idle. */
+        void choose(Gift gift, int end, int n) {
             steps = 0;
-            for (int i = from; i >= 0 && i < to && i < gift.steps && steps < MOST_STEPS; i++) {
-                if (i < gift.kinds.length && i < gift.numbers.length && i < gift.lives.length
-                        && i < gift.firsts.length) {
-                    boolean age = gift.kinds[i] == REACHES || gift.kinds[i] == LIFE_REACHES;
-                    kinds[steps] = gift.kinds[i];
-                    numbers[steps] = age ? Math.min(n, gift.numbers[i]) : gift.numbers[i];
-                    lives[steps] = gift.lives[i];
-                    firsts[steps] = gift.firsts[i] - from;
-                    steps++;
-                }
+            for (int i = 0; i < end && i < MOST_STEPS && gift.hasStep(i); i++) {
+                boolean age = gift.kinds[i] == REACHES || gift.kinds[i] == LIFE_REACHES;
+                kinds[i] = gift.kinds[i];
+                numbers[i] = age ? Math.min(n, gift.numbers[i]) : gift.numbers[i];
+                lives[i] = gift.lives[i];
+                firsts[i] = gift.firsts[i];
+                steps++;
             }
         }
 
@@ -1737,7 +1729,7 @@ public final class LaterLives {
             theEnd = world.theEnd(after);
             single = gift.whom == TO_ONE;
             nature = world.natureOf(gift);
-            reckoner.choose(gift, 0, gift.steps, MOST_YEARS);
+            reckoner.choose(gift, gift.steps, MOST_YEARS);
             for (int i = 0; i < persons && i < MOST_PERSONS; i++) {
                 boolean inside = world.inClass(gift, i);
                 years[i] = inside ? reckoner.vestingYear(world, world.bornIn(i), world.diedIn(i)) : NO_MEMBER;
@@ -1870,9 +1862,9 @@ public final class LaterLives {
             this.reckoner = reckoner;
         }
 
-        /** Takes the E, or a part of it, that the steps from .. to - 1 are, ages to be reached lowered to n. */
-        void take(Affairs affairs, Gift gift, int from, int to, int n) {
-            reckoner.choose(gift, from, to, n);
+        /** Takes the E that ends with a step (a T of the GIFT, or the whole), ages to be reached lowered to n. */
+        void take(Affairs affairs, Gift gift, int end, int n) {
+            reckoner.choose(gift, end, n);
             start.startOf(affairs.world);
             played.startOf(affairs.world);
             played.now = COURSE_NOW;
