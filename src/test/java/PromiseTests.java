@@ -302,6 +302,13 @@ public final class PromiseTests {
         faults(x, 1, "to a when (born" + times(" or born", 15) + " or )", 139);
         faults(x, 1, "to childrenz a when born", 3);
         faults(x, 1, "xo a when born", 0);
+        faults(x, 1, "to a when after or born", 16);
+        faults(x, 1, "to a when after 5 or born", 18);
+        faults(x, 1, "to a when years or born", 16);
+        faults(x, 1, "to a when reaches and born", 18);
+        faults(x, 1, "to a when dies or born", 15);
+        faults(x, 1, "to a when c reaches or born", 20);
+        faults(x, 1, "to a when (after 5) born", 18);
         faults(x, 1, "to a when after 0 born", NONE);
         due("4 another what, with a FAMILY", x.fault(3), -2);
         due("4 another what, with a FAMILY", x.fault(-1), -2);
