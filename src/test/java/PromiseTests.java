@@ -1,100 +1,5 @@
-import java.util.NoSuchElementException;
-
 /** Promises 1 to 43, one by one; the answers due are the document's, reckoned by hand. */
-public final class PromiseTests {
-    static final int NONE = -1;
-    static final int HIDDEN = -1000000;
-    static final String FOUR = "a 60; b 30 of a; c 5 of b; d 20";
-    static int wrong;
-
-    static void due(String call, long got, long want) {
-        if (got != want) {
-            wrong++;
-            System.out.println(call + " answered " + got + ", due is " + want);
-        }
-    }
-
-    static void due(String call, boolean got, boolean want) {
-        due(call, got ? 1 : 0, want ? 1 : 0);
-    }
-
-    /** Puts a TEXT on the TAPE, instead of what was there. */
-    static void tell(LaterLives x, String text) {
-        x.end(0);
-        add(x, text);
-    }
-
-    static int add(LaterLives x, String text) {
-        int length = NONE;
-        for (int at = 0; at < text.length(); at += 20) {
-            length = x.feed(word(text, at), word(text, at + 4), word(text, at + 8), word(text, at + 12), word(text, at + 16));
-        }
-        return length;
-    }
-
-    static int word(String text, int from) {
-        int word = 0;
-        for (int i = from; i < from + 4; i++) {
-            word = word << 8 | (i < text.length() ? text.charAt(i) : 0);
-        }
-        return word;
-    }
-
-    static LaterLives made(String family, String... gifts) {
-        LaterLives x = new LaterLives();
-        tell(x, family);
-        due("family() of " + family, x.family() > 0, true);
-        for (int i = 0; i < gifts.length; i++) {
-            due("gift() of " + gifts[i], gift(x, gifts[i]), i);
-        }
-        return x;
-    }
-
-    static int gift(LaterLives x, String text) {
-        tell(x, text);
-        return x.gift();
-    }
-
-    static int story(LaterLives x, String text) {
-        tell(x, text);
-        return x.story();
-    }
-
-    static int person(LaterLives x, int person, int what) {
-        try {
-            return x.person(person, what);
-        } catch (NoSuchElementException e) {
-            return -777;
-        }
-    }
-
-    static void faults(LaterLives x, int what, String text, int place) {
-        tell(x, text);
-        due("fault(" + what + ") of '" + text + "'", x.fault(what), place);
-    }
-
-    static String times(String text, int n) {
-        return text.repeat(n);
-    }
-
-    static String text(LaterLives x, int gift) {
-        StringBuilder b = new StringBuilder();
-        for (int k = 0; k < x.written(gift, NONE); k++) {
-            b.append((char) x.written(gift, k));
-        }
-        return b.toString();
-    }
-
-    static void writes(String told, String written) {
-        LaterLives x = made(FOUR, told);
-        if (!text(x, 0).equals(written)) {
-            wrong++;
-            System.out.println("'" + told + "' is written '" + text(x, 0) + "', due is '" + written + "'");
-        }
-        due("written length", x.written(0, NONE), written.length());
-        due("written behind the end", x.written(0, written.length()), NONE);
-    }
-
+public final class PromiseTests extends Checks {
     static void p1() {
         LaterLives x = new LaterLives();
         due("NONE", LaterLives.NONE, -1);
@@ -106,7 +11,7 @@ public final class PromiseTests {
         }
         due("1 size 0", x.size(0), 0);
         due("1 size 1", x.size(1), 0);
-        due("1 person", person(x, 0, 0), -777);
+        due("1 person", person(x, 0, 0), THROWN);
         due("1 told", x.told(0, 0), NONE);
         due("1 written", x.written(0, NONE), NONE);
         due("1 member", x.member(0, NONE), NONE);
@@ -524,7 +429,7 @@ public final class PromiseTests {
         due("9 13 since birth, no room", x.birth(23), NONE);
         due("9 STATUS 2", x.status(2), 2);
         due("9 24 PERSONS", x.rule(1), 24);
-        due("9 none more", person(x, 24, 0), -777);
+        due("9 none more", person(x, 24, 0), THROWN);
     }
 
     static void p10() {
@@ -634,14 +539,14 @@ public final class PromiseTests {
                 due("14 person " + p + ", " + what, person(x, p, what), due[p][what]);
             }
         }
-        due("14 no such what", person(x, 0, 5), -777);
-        due("14 no such what", person(x, 0, -1), -777);
-        due("14 no such PERSON", person(x, 5, 0), -777);
-        due("14 no such PERSON", person(x, -1, 0), -777);
+        due("14 no such what", person(x, 0, 5), THROWN);
+        due("14 no such what", person(x, 0, -1), THROWN);
+        due("14 no such PERSON", person(x, 5, 0), THROWN);
+        due("14 no such PERSON", person(x, -1, 0), THROWN);
         x.undo();
         x.undo();
         x.undo();
-        due("14 none any more", person(x, 4, 0), -777);
+        due("14 none any more", person(x, 4, 0), THROWN);
     }
 
     static void p15() {
@@ -1679,9 +1584,6 @@ public final class PromiseTests {
         p41();
         p42();
         p43();
-        System.out.println(wrong == 0 ? "promises 1 to 43: all answers are as due" : wrong + " answers are not as due");
-        if (wrong != 0) {
-            System.exit(1);
-        }
+        tellHowItWent("promises 1 to 43: all answers are as due");
     }
 }
