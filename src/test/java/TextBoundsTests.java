@@ -534,6 +534,34 @@ public final class TextBoundsTests extends Checks {
         }, y -> y.gift(), NONE, 2);
     }
 
+    /** The longest TEXTS and the shortest in turn: what was read ahead leaves nothing. */
+    static void oneBehindAnother() {
+        says(6, "The TAPE (empty then) is a GIFT more");
+        String big = "to a when years 22" + times(" and years 22", 15);
+        LaterLives x = four();
+        for (int i = 0; i < 8; i++) {
+            boolean small = i % 2 == 1;
+            faults(x, 1, big + " and", NONE + big.length() + 5);
+            faults(x, 1, big, NONE);
+            due("a GIFT", gift(x, small ? "to b when years 3" : big), i);
+            due("Fs of " + i, x.told(i, 2), small ? 1 : 16);
+            due("Ts of " + i, x.told(i, 3), 1);
+            due("LIFE of " + i, x.told(i, 1), small ? 1 : 0);
+            due("bytes of " + i, x.written(i, NONE), small ? 17 : big.length());
+            due("GOOD is " + i, x.good(i), small ? 1 : 0);
+            due("SOONEST of " + i, x.soonest(i, 0, small ? 1 : 0), small ? 3 : 22);
+        }
+        x = four();
+        String story = "in 1" + times(";a bears", 20) + times(";in 2", 9);
+        for (int i = 0; i < 8; i++) {
+            due("a STORY of 30", story(x, story), 30);
+            due("its PERSONS", x.storied(1), 24);
+            due("a STORY of 1", story(x, "b dies"), 1);
+            due("its PERSONS", x.storied(1), 4);
+            due("its YEAR", x.storied(0), 0);
+        }
+    }
+
     static void drops() {
         says(7, "A GIFT goes (those behind it have numbers 1 less)");
         int[] lives = {0, 1, 2, 3, 0, 1, 2, 3};
@@ -548,7 +576,15 @@ public final class TextBoundsTests extends Checks {
             due("an ACT", x.size(1), 9);
             due("the next one", gift(x, "to a when born"), 7);
         }
-        LaterLives x = made(FOUR, "to a when born");
+        LaterLives x = full();
+        for (int left = 7; left >= 0; left--) {
+            due("the first goes", x.drop(0), left);
+            for (int none = left; none <= 8; none++) {
+                due("no GIFT " + none, x.told(none, 0), NONE);
+            }
+            due("the last one stays", left == 0 ? '7' : x.written(left - 1, 16), '7');
+        }
+        x = made(FOUR, "to a when born");
         due("the only one", x.drop(0), 0);
         due("none", x.rule(6), 0);
         says(7, "NONE: no FAMILY (STATUS 0), no such one (1).");
@@ -636,6 +672,7 @@ public final class TextBoundsTests extends Checks {
         storyFaults();
         families();
         gifts();
+        oneBehindAnother();
         drops();
         told();
         written();

@@ -223,6 +223,9 @@ public final class TrialBoundsTests extends Checks {
         numbers("after 4 years 5", 0, 2, 0, 9, 9);
         numbers("after 4 dies b", 0, 2, 2, 4, 4);
         numbers("after 4 reaches 6", 0, 2, 0, 5, NONE);
+        numbers("after 4 reaches 6", 0, 2, 4, 4, NONE);
+        numbers("after 4 b reaches 31", 0, 2, 2, 4, NONE);
+        numbers("after 4 born", 1, 1, 2, 4, 4);
         numbers("after 4 reaches 5", 0, 2, 0, 4, 4);
         due("198", three("after 99 years 99").behind(0, 0, 2, 0), 198);
         due("594", three(times("after 99 ", 5) + "years 99").behind(0, 0, 2, 0), 594);
@@ -507,6 +510,13 @@ public final class TrialBoundsTests extends Checks {
         x.limit(60);
         due("SORT 2", x.witness(0), 0);
         due("by all four", x.lates(0), 2 + 1);
+        x = made("a 60; b 50; c 7", "to children a when after 99 after 99 after 99 after 48 (born and dies b) and a reaches 80");
+        due("a in 60, b in 1, EARLY: 346", x.witness(0), 258);
+        due("c in 1, too", x.lates(0), 2);
+        x = made("a60;b50;c1;d1;e1;f1;g1;h50", "to children a when after 99 after 99 after 99 after 48 (born and dies b and dies c and "
+            + "dies d and dies e and dies f and dies g and dies h) and a reaches 80");
+        due("a in 60, all others in 1, EARLY", x.witness(0), 510);
+        due("by this one alone", x.lates(0), 1);
         says(35, "By how many COURSES (each set of LIVES, EARLY or not) a member of a SORT that is there is LATE. NONE: no such GIFT.");
         x = made(EIGHT, "to a when years 23", "to a when years 82", "to a when years 81", "to a when years 22",
             "to a when after 22 dies h");
@@ -605,6 +615,8 @@ public final class TrialBoundsTests extends Checks {
         worsts("SORT 2: ever", made(family, "to grandchildren a when reaches 9"), 2, 0, NONE);
         worsts("e by its own", limited(made("a 60; b 30 of a; c 5 of b; d 29", "to grandchildren a when years 3 and reaches 6"), 13), 0, 2, 3);
         worsts("VESTED at first: SORT 0 alone", made(family, "to grandchildren a when reaches 5"), 0, 3, 0);
+        worsts("the first of SORT 0 is worse", made("a 60; b 5 of a; c 10 of a", "to children a when reaches 6 or years 9"), 0, 1, 9);
+        worsts("the second of SORT 0 is worse", made("a 60; b 10 of a; c 5 of a", "to children a when reaches 6 or years 9"), 0, 2, 9);
         worsts("to one: 594", made(family, "to b when " + times("after 99 ", 5) + "years 99"), 0, 1, 594);
         worsts("to one: 0", made(family, "to e when dies e"), 0, 4, 0);
         says(36, "HIDDEN: it has none, no such ones.");

@@ -189,6 +189,9 @@ public final class WaitBoundsTests extends Checks {
         due("after 7 dies b", when("after 7 dies b"), NONE);
         due("after 0 years 11", when("after 0 years 11"), NONE);
         due("after 99 years 99", when("after 99 years 99"), NONE);
+        due("after 1 NOT YET", when("after 1 dies a"), NONE);
+        due("after 5 NOT YET", when("after 5 years 50"), NONE);
+        due("after 5 after 5 NOT YET", when("after 5 after 5 (years 50)"), NONE);
         due("after 0 NEVER", when("after 0 b reaches 99"), -2);
         due("after 99 NEVER", when("after 99 b reaches 99"), -2);
         due("after 3 after 3 dies b", when("after 3 after 3 dies b"), 10);
