@@ -328,6 +328,9 @@ public final class ChangeBoundsTests extends Checks {
         due("GIFTS", full().rule(6), 8);
         due("PERSONS", crowd(24).rule(1), 24);
         due("LIVES", crowd(24).rule(7), 1);
+        says(13, "THE END: the YEAR in which the last LIFE died, and PERIOD (21 at first; 0 to 99); none, as long as one lives.");
+        due("PERIOD at first", made("a 60").rule(4), 21);
+        due("LIMIT at first", made("a 60").rule(8), 99);
         says(13, "NONE: no FAMILY, no such what.");
         for (int what : new int[] {-1, 9, 10, MIN, MAX}) {
             asked("rule(" + what + ")", ChangeBoundsTests::lived, y -> y.rule(what), NONE);
@@ -358,6 +361,7 @@ public final class ChangeBoundsTests extends Checks {
                 due("person(" + p + ", " + what + ")", person(x, p, what), due[p][what]);
             }
         }
+        says(14, "4 how many children it has had");
         due("most children", person(crowd(24), 0, 4), 23);
         due("the last one", person(crowd(24), 23, 2), 0);
         says(14, "NoSuchElementException: no such ones.");
@@ -489,6 +493,26 @@ public final class ChangeBoundsTests extends Checks {
         due("a second", x.image(), 7);
         x.pass(4);
         due("instead of the first", x.back(), 7);
+        says(39, "An IMAGE keeps PERSONS, now, PERIOD, LIMIT, GIFTS.");
+        x = at(3);
+        x.period(0);
+        x.limit(13);
+        gift(x, "to a when years 5");
+        x.birth(0);
+        x.death(1);
+        x.image();
+        x.undo();
+        x.undo();
+        x.undo();
+        x.undo();
+        x.undo();
+        due("all UNDONE", x.rule(0) * 1000 + x.rule(1) * 100 + x.rule(4), 3421);
+        due("back()", x.back(), 3);
+        due("PERSONS", x.rule(1), 5);
+        due("the dead", person(x, 1, 1), 3);
+        due("PERIOD", x.rule(4), 0);
+        due("LIMIT", x.rule(8), 13);
+        due("GIFTS", x.written(0, 16), '5');
         says(40, "All it keeps is so again (no ACT can be UNDONE then): now. NONE: no IMAGE.");
         asked("back(), no FAMILY", ChangeBoundsTests::fresh, y -> y.back(), NONE);
         asked("back(), no IMAGE", () -> at(3), y -> y.back(), NONE);
@@ -558,6 +582,32 @@ public final class ChangeBoundsTests extends Checks {
         for (int i = 0; i < 5; i++) {
             due("none else " + i, x.status(i), i == 0 ? 300 : i == 2 ? 1 : 0);
         }
+        says(41, "0 no FAMILY, 1 no such PERSON, GIFT, 2 out of bounds, a FAULT, 3 dead, 4 no room; of several the first");
+        x = crowd(24);
+        x.drop(0);
+        x.birth(24);
+        x.death(24);
+        due("no such PERSON, GIFT", x.status(1), 3);
+        x.pass(101);
+        x.period(-1);
+        x.limit(12);
+        x.gift();
+        x.birth(23);
+        due("out of bounds, a FAULT", x.status(2), 5);
+        x.death(23);
+        x.death(23);
+        due("dead", x.status(3), 1);
+        x.birth(0);
+        for (int i = 0; i < 8; i++) {
+            gift(x, "to a when born");
+        }
+        gift(x, "to a when born");
+        due("no room", x.status(4), 2);
+        x.death(0);
+        x.pass(1);
+        x.birth(0);
+        due("dead, no room", x.status(3), 2);
+        due("no FAMILY", x.status(0), 0);
         says(41, "(those whose words tell STATUS)");
         asked("family(), a FAULT", ChangeBoundsTests::lived, y -> y.family(), NONE);
         asked("story(), a FAULT", ChangeBoundsTests::lived, y -> y.story(), NONE);

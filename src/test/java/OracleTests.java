@@ -19,12 +19,15 @@ public final class OracleTests {
     final Oracle other = new Oracle();
     final List<String> told = new ArrayList<>();
     final boolean gentle;
+    /** Many arguments and NUMBERS at their bounds and beside them. */
+    final boolean edgy;
     int calls;
     String names = "a";
 
     OracleTests(long seed) {
         random = new Random(seed);
         gentle = seed % 3 != 0;
+        edgy = seed % 4 == 0;
     }
 
     static Method method(Class<?> c, String name) {
@@ -76,6 +79,9 @@ public final class OracleTests {
     }
 
     String number(int most) {
+        if (edgy && below(3) == 0) {
+            return String.valueOf(new int[] {0, 1, most - 1, most, 21, 22}[below(6)]);
+        }
         int n = below(12) == 0 ? most : rare(15) ? most + 1 : below(most + 1);
         return rare(20) ? "0" + n : String.valueOf(n);
     }
@@ -86,13 +92,14 @@ public final class OracleTests {
 
     String familyText() {
         StringBuilder b = new StringBuilder();
-        int many = rare(20) ? 9 : 1 + below(8);
+        int many = rare(20) ? 9 : edgy && below(2) == 0 ? 8 : 1 + below(8);
         int[] ages = new int[many];
         StringBuilder used = new StringBuilder();
         for (int i = 0; i < many; i++) {
             char c = "abcdefghi".charAt(rare(30) ? 0 : i);
             int parent = i > 0 && below(4) > 0 ? below(i) : -1;
-            ages[i] = parent >= 0 ? Math.max(0, ages[parent] - 13 - below(20)) : below(100);
+            ages[i] = parent >= 0 ? Math.max(0, ages[parent] - 13 - (edgy ? below(2) : below(20)))
+                : edgy && below(2) == 0 ? 99 * below(2) : below(100);
             b.append(i > 0 ? blanks() + ";" + blanks() : "").append(c).append(blanks()).append(ages[i]);
             if (parent >= 0 && (ages[parent] - ages[i] >= 13 || rare(10))) {
                 b.append(blanks()).append("of ").append(used.charAt(parent));
@@ -179,6 +186,9 @@ public final class OracleTests {
     }
 
     int some(int least, int most) {
+        if (edgy && below(3) == 0) {
+            return new int[] {least - 1, least, least, most, most, most + 1}[below(6)];
+        }
         if (!gentle && below(12) == 0) {
             return new int[] {Integer.MIN_VALUE, Integer.MAX_VALUE, -1, most + 1, least - 1}[below(5)];
         }
@@ -214,7 +224,7 @@ public final class OracleTests {
             call("fault", 0);
             call("family");
         } else if (dice < 10) {
-            call("pass", below(6) == 0 ? some(0, 101) : 1 + below(12));
+            call("pass", below(6) == 0 ? some(1, 100) : edgy && below(9) == 0 ? 100 : 1 + below(12));
         } else if (dice < 18) {
             call("birth", onePerson());
         } else if (dice < 21) {
@@ -276,8 +286,8 @@ public final class OracleTests {
             case "drop": if (below(4) == 0) { call(name, oneGift()); } break;
             case "pass": call(name, 1 + below(3)); break;
             case "birth": case "death": call(name, onePerson()); break;
-            case "period": call(name, some(-1, 100)); break;
-            case "limit": call(name, some(12, 100)); break;
+            case "period": call(name, some(0, 99)); break;
+            case "limit": call(name, some(13, 99)); break;
             case "rule": call(name, some(-1, 9)); break;
             case "person": call(name, onePerson(), some(-1, 5)); break;
             case "told": call(name, oneGift(), some(-1, 4)); break;

@@ -75,7 +75,7 @@ public final class TextBoundsTests extends Checks {
     }
 
     static void theTape() {
-        says(2, "(of each number the highest first; bytes of 0 are left out)");
+        says(2, "Twenty bytes more come to the TAPE (of each number the highest first; bytes of 0 are left out): how many it has.");
         LaterLives x = new LaterLives();
         due("five numbers in their order", x.feed(0x61203939, 0x3b206220, 0x3830206f, 0x6620613b, 0x20632037), 20);
         due("read in their order", x.family(), 3);
@@ -205,6 +205,7 @@ public final class TextBoundsTests extends Checks {
             faults(x, 0, sign + " 5", sign >= 'a' && sign <= 'h' ? NONE : sign == ' ' ? 2 : 0);
             faults(x, 0, "a " + sign, digit ? NONE : sign == ' ' ? 3 : 2);
             faults(x, 0, "a 5" + sign, digit || sign == ' ' ? NONE : sign == ';' ? 4 : 3);
+            faults(x, 0, "a" + sign + "5", digit || sign == ' ' ? NONE : sign >= 'a' && sign <= 'z' ? 0 : 1);
         }
         faults(fresh(), 0, "aa 5", 0);
         faults(fresh(), 0, "a 50; b 5 ofa", 10);
@@ -221,6 +222,26 @@ public final class TextBoundsTests extends Checks {
         faults(four(), 1, "to a when grandchildren", 10);
         faults(four(), 1, "to child a when born", 3);
         faults(four(), 1, "to grandchildrena when born", 3);
+        says(4, "FAULT: where the first part begins that can't stand there: a word, a NUMBER (of more digits, out of bounds, too), another byte");
+        faults(fresh(), 0, "  of 5", 2);
+        faults(fresh(), 0, "  5 a", 2);
+        faults(fresh(), 0, "  ; a 5", 2);
+        faults(fresh(), 0, "a  zz", 3);
+        faults(fresh(), 0, "a  1000", 3);
+        faults(fresh(), 0, "a  100", 3);
+        faults(fresh(), 0, "a 5  7 ; a", 5);
+        faults(four(), 1, "to  5", 4);
+        faults(four(), 1, "to a  then", 6);
+        faults(four(), 1, "to a when  after  100  100", 18);
+        faults(four(), 1, "to a when  after  10000  x", 18);
+        faults(four(), 1, "to a when born  but", 16);
+        faults(four(), 1, "to a when born  5", 16);
+        faults(four(), 1, "to a when born  (born)", 16);
+        faults(four(), 1, "to a when years  (", 17);
+        faults(four(), 2, "in  a", 4);
+        faults(four(), 2, "a  in", 3);
+        faults(four(), 2, "a dies  in 5", 8);
+        faults(four(), 2, "person  1000 dies", 8);
         says(4, "NUMBERS 1 to 3 digits as long as they can");
         faults(fresh(), 0, "a 0", NONE);
         faults(fresh(), 0, "a 00", NONE);
@@ -349,7 +370,7 @@ public final class TextBoundsTests extends Checks {
     }
 
     static void within() {
-        says(4, "a sixth ( or after within one another");
+        says(4, "FAULT likewise; a sixth ( or after within one another");
         for (int mask = 0; mask < 64; mask++) {
             LaterLives x = four();
             StringBuilder open = new StringBuilder("to a when ");
@@ -452,6 +473,7 @@ public final class TextBoundsTests extends Checks {
             due("the last one", person(x, many - 1, 0), -90 - many);
             due("no more", person(x, many, 0), THROWN);
         }
+        says(5, "YEAR 0 is now; a LIFE was born in the YEAR that is 0 less its AGE");
         LaterLives x = fresh();
         tell(x, "h 0; a 99; b 86 of a; c 0 of b");
         x.family();
@@ -512,7 +534,14 @@ public final class TextBoundsTests extends Checks {
         x.drop(7);
         due("it can be told then", x.gift(), 7);
         due("as an eighth", x.told(7, 1), 0);
+        says(6, "NONE: no FAMILY (STATUS 0), a FAULT (2), there are eight (4) (the TAPE stays).");
         refused("a FAULT", TextBoundsTests::lived, y -> y.gift(), NONE, 2);
+        x = lived();
+        x.gift();
+        due("the TAPE stays", x.size(0), 17);
+        add(x, " born");
+        due("and can be gone on with", x.gift(), 3);
+        due("as it was", x.written(3, NONE), 22);
         refused("none told", () -> livedWith(""), y -> y.gift(), NONE, 2);
         refused("a FAMILY", () -> livedWith(FOUR), y -> y.gift(), NONE, 2);
         refused("a NAME that isn't there", () -> livedWith("to e when born"), y -> y.gift(), NONE, 2);
@@ -622,7 +651,8 @@ public final class TextBoundsTests extends Checks {
     }
 
     static void written() {
-        says(16, "one blank between words, NUMBERS, ( and ), too; a ( only where it was told");
+        says(16, "WRITTEN: \"to \", (children , grandchildren ) NAME, \" when \", E: one blank between words, NUMBERS, ( and ), too; a ( only where "
+            + "it was told.");
         writes("to a when born", "to a when born");
         writes("   to   children   a   when   born   ", "to children a when born");
         writes("to grandchildren a when(((((born)))))", "to grandchildren a when ( ( ( ( ( born ) ) ) ) )");

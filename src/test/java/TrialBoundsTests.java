@@ -218,6 +218,12 @@ public final class TrialBoundsTests extends Checks {
     }
 
     static void joints() {
+        says(28, "(behind YEAR 0, if none counts)");
+        numbers("years 7", 0, 2, 0, 7, 7);
+        numbers("reaches 12", 0, 2, 0, 7, NONE);
+        numbers("b reaches 37", 0, 2, 0, 7, NONE);
+        numbers("after 7 born", 0, 2, 0, 7, 7);
+        numbers("dies a", 0, 2, 0, NONE, NONE);
         says(28, "after N F: both N more than F's.");
         numbers("after 0 years 5", 0, 2, 0, 5, 5);
         numbers("after 4 years 5", 0, 2, 0, 9, 9);
@@ -264,6 +270,12 @@ public final class TrialBoundsTests extends Checks {
     }
 
     static void whichMembers() {
+        says(28, "Of several parents of SORT 1 each is a member of its own.");
+        LaterLives two = made("a 60; b 30 of a; c 29 of a", "to grandchildren a when born");
+        due("by b", two.behind(0, 1, 1, 2), 0);
+        due("by c", two.behind(0, 1, 2, 2), NONE);
+        due("by b", two.behind(0, 1, 1, 4), NONE);
+        due("by c", two.behind(0, 1, 2, 4), 0);
         says(28, "NONE: ever; -2: it is no member; HIDDEN: no such GIFT, SORT, LIFE, LIVES.");
         says(28, "SORT 1 of children: of the LIFE told; of grandchildren: of each LIFE that is its child (none without).");
         String[] gifts = {"to b when born", "to children a when born", "to grandchildren a when born", "to children d when born",
@@ -413,6 +425,7 @@ public final class TrialBoundsTests extends Checks {
     }
 
     static void ways() {
+        says(31, "WAYS that are GOOD (bits, the first T's the lowest). NONE: no such GIFT.");
         says(31, "the Ts of its E (not within others), each as an E of its own: which are GOOD");
         for (int good = 0; good < 16; good++) {
             StringBuilder e = new StringBuilder();
@@ -440,6 +453,7 @@ public final class TrialBoundsTests extends Checks {
     }
 
     static void lowered() {
+        says(32, "LOWERED: the greatest n. NONE: none, no such GIFT.");
         says(32, "each N of reaches above n is n: the greatest n, 0 to 99, by which it is GOOD");
         due("GOOD with reaches 99", made(THREE, "to c when reaches 99").lowered(0), 99);
         due("GOOD without one", made(THREE, "to c when years 21").lowered(0), 99);
@@ -478,6 +492,7 @@ public final class TrialBoundsTests extends Checks {
     }
 
     static void witness() {
+        says(33, "WITNESS. NONE: none, no such GIFT.");
         says(33, "LATE, if above the last LIFE's death and PERIOD");
         due("60 by 60", witnessBy("a 60", "to a when years 60", 0), 1);
         due("61 by 60", witnessBy("a 60", "to a when years 61", 0), 0);
@@ -553,6 +568,16 @@ public final class TrialBoundsTests extends Checks {
         says(34, "these never die");
         due("SORT 1 reaches 99", made(THREE, "to children b when reaches 99").course(0, 1, 1, 7), 100);
         due("SORT 2 reaches 99", made(THREE, "to grandchildren b when reaches 99").course(0, 2, 1, 0), 189);
+        says(34, "The member of SORT 1 is born so to its parent, that of SORT 2 30 YEARS behind a child that is born so to the LIFE told");
+        x = made("a 60; b 30 of a; c 29 of a", "to grandchildren a when born");
+        for (int course = 0; course < 8; course++) {
+            due("SORT 1 by b, " + course, x.course(0, 1, 1, course), (course & 2) != 0 ? 1 : 60);
+            due("SORT 1 by c, " + course, x.course(0, 1, 2, course), (course & 4) != 0 ? 1 : 60);
+            due("SORT 2 by a, " + course, x.course(0, 2, 0, course), (course & 1) != 0 ? 31 : 90);
+            due("SORT 1 by c, EARLY, " + course, x.course(0, 1, 2, 256 + course), 1);
+            due("SORT 2 by a, EARLY, " + course, x.course(0, 2, 0, 256 + course), 31);
+        }
+        says(34, "A member VESTS by that, as of YEAR 400");
         says(34, "the YEAR in which a member (told as in behind()) VESTS. NONE: NOT YET by YEAR 400; -2: NEVER; -3: it is no member");
         due("400", made(THREE, "to c when " + times("after 99 ", 4) + "years 4").course(0, 0, 2, 0), 400);
         due("401", made(THREE, "to c when " + times("after 99 ", 4) + "years 5").course(0, 0, 2, 0), NONE);

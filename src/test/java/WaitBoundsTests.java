@@ -298,6 +298,15 @@ public final class WaitBoundsTests extends Checks {
         x.death(2);
         due("it is dead, too", x.closes(0, 1), 5);
         due("those it is NATURE's YEAR of: none VESTED", x.closes(0, 0), NONE);
+        says(19, "The YEAR in which the CLASS closes by CONVENIENCE (what 0), NATURE (1).");
+        x = made("a 60; b 30 of a", "to children a when reaches 31");
+        x.pass(1);
+        due("by CONVENIENCE", x.closes(0, 0), 1);
+        due("not by NATURE", x.closes(0, 1), NONE);
+        x.pass(1);
+        x.death(0);
+        due("by CONVENIENCE, too", x.closes(0, 0), 1);
+        due("by NATURE, too", x.closes(0, 1), 2);
         says(19, "NONE: it hasn't, it is of one, no such ones.");
         due("to one, VESTED", made(FOUR, "to a when born").closes(0, 0), NONE);
         for (int none : new int[] {-1, 2, 3, MIN, MAX}) {
@@ -380,6 +389,10 @@ public final class WaitBoundsTests extends Checks {
     }
 
     static void moreStates() {
+        says(20, "(nobody can come any more: it is to one, or its CLASS has closed by either)");
+        counts("to one", made("a 60; b 30 of a", "to b when born"), 1, 1, 0, 0, 0);
+        counts("closed by CONVENIENCE, the LIFE lives", made("a 60; b 30 of a", "to children a when born"), 1, 1, 0, 0, 0);
+        counts("not closed", made("a 60; b 30 of a", "to children a when years 1"), 0, 0, 0, 0, 1);
         says(20, "1 each member has VESTED or NEVER does, and nobody can come any more");
         LaterLives x = made("a 60; b 30 of a; c 20 of a; d 19 of a", "to children a when reaches 31");
         counts("NOT YET", x, 0, 0, 0, 0, 3);
@@ -555,6 +568,13 @@ public final class WaitBoundsTests extends Checks {
         played("in 1" + times(";a bears", 20) + ";person 23 dies" + times(";in 9", 8), 30, 9, 24, NONE, 15);
         played(times("in 5;", 29) + "in 6", 30, 6, 4, NONE, 15);
         played(times("in 5;", 29) + "person 9 dies", 29, 5, 4, 29, 15);
+        says(23, "how many EVENTS were done");
+        for (int many = 1; many <= 30; many++) {
+            played("in 7" + times(";in 7", many - 1), many, 7, 4, NONE, 15);
+        }
+        for (int first = 0; first < 30; first++) {
+            played(times("in 7;", first) + "person 4 dies" + times(";in 8", 29 - first), first, first == 0 ? 0 : 7, 4, first, 15);
+        }
         says(23, "from YEAR 0 on, all LIVES living");
         LaterLives x = lived();
         due("in fact it is YEAR 10, a is dead", story(x, "in 1;a bears;a dies"), 3);
@@ -598,6 +618,21 @@ public final class WaitBoundsTests extends Checks {
             asked("none told, storied(" + what + ")", () -> made(FOUR), y -> y.storied(what), NONE);
             asked("no FAMILY, storied(" + what + ")", WaitBoundsTests::fresh, y -> y.storied(what), NONE);
         }
+        says(24, "What it tells is by GIFTS, PERIOD as they are when asked.");
+        x = made(FOUR, "to a when years 30");
+        story(x, "in 5;a dies;b dies;c dies;d dies;in 30");
+        due("LATE by 26", x.storyState(0), 2);
+        x.period(25);
+        due("in time by 30", x.storyState(0), 1);
+        due("THE END is 30", x.storied(3), 30);
+        x.drop(0);
+        due("dropped", x.storyState(0), NONE);
+        gift(x, "to a when years 31");
+        due("told since", x.storyVests(0, 0), NONE);
+        due("in THE END", x.storyState(0), 0);
+        x.undo();
+        x.undo();
+        due("UNDONE", x.storyVests(0, 0), 30);
         says(25, "STATE by the STORY. NONE: there is none, no such GIFT.");
         x = made("a 60; b 30 of a", "to b when years 20", "to b when reaches 45", "to children b when born", "to b when dies a");
         x.period(4);
